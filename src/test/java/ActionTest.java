@@ -42,10 +42,15 @@ final class ActionTest {
         due.thrown("ask though 12 wait", Due.STATE, () -> y.ask(0));
         due.thrown("ask(10) though 12 wait", Due.INDEX, () -> y.ask(10));
         due.is("those who wait", 12, y.about(5));
-        y.set(0, 1);
-        y.undo();
+        y.bury(0);
+        for (int p = 1; p < 24; p++) {
+            y.renew(p, 99);
+        }
         y.run(30);
-        due.is("all are free, but for the 12", 12, y.about(1));
+        y.clear(0);
+        due.is("though 12 wait, the one free plot", 0, y.ask(5));
+        due.thrown("ask when that is let", Due.STATE, () -> y.ask(5));
+        due.is("12 wait still", 12, y.about(5));
     }
 
     private static void askNearOwnPlots() {
@@ -273,6 +278,17 @@ final class ActionTest {
         due.is("nobody behind it", -1, x.waiting(1));
         due.is("a lease from now on", 59, x.plot(23, 1));
         due.is("9 paid for two", 120, x.family(9, 5));
+        PlotLeases z = full();
+        z.ask(7);
+        z.ask(0);
+        for (int p = 0; p < 23; p++) {
+            if (p != 2) {
+                z.renew(p, 1);
+            }
+        }
+        due.is("2 and 23 are free", 2, z.run(30));
+        due.is("7, the first one, is near 23", 7, z.plot(23, 0));
+        due.is("0 gets the other one", 0, z.plot(2, 0));
         PlotLeases y = full();
         y.set(0, 1);
         for (int i = 0; i < 12; i++) {

@@ -41,6 +41,12 @@ final class ForecastTest {
         x.run(30);
         due.is("a lapsed plot counts", 1, x.plotFor(0));
         due.is("a claimed one does not count for the claimant", 1, x.plotFor(5));
+        PlotLeases y = new PlotLeases();
+        y.let(0, 0);
+        y.let(1, 1);
+        due.is("near plot 0", 6, y.plotFor(0));
+        y.let(1, 6);
+        due.is("at way 2 of plot 0", 2, y.plotFor(0));
     }
 
     private static void clearFrom() {
@@ -73,6 +79,7 @@ final class ForecastTest {
         due.thrown("coming(1, -1)", Due.ARGUMENT, () -> x.coming(1, -1));
         due.thrown("coming(1, 4)", Due.ARGUMENT, () -> x.coming(1, 4));
         due.is("coming(200, 0)", 24, x.coming(200, 0));
+        due.is("coming(1, 0)", 24, x.coming(1, 0));
         PlotLeases y = full();
         y.bury(0);
         y.bury(1);
@@ -155,6 +162,12 @@ final class ForecastTest {
             y.claim(p, 9);
         }
         due.is("all in dispute", -1, y.whenFor(0));
+        PlotLeases z = full();
+        for (int i = 0; i < 12; i++) {
+            z.ask(8);
+        }
+        due.is("the 13th of those who wait, when all leases end", 30, z.whenFor(9));
+        due.is("of 12 who wait none is forgotten", 12, z.run(30));
     }
 
     private static void nothingIsChanged() {

@@ -160,6 +160,9 @@ final class ReadingTest {
         due.is("plots of 4", 3, x.family(4, 0));
         due.is("burials of 4", 4, x.family(4, 1));
         due.is("claims of 4", 1, x.family(4, 4));
+        due.is("claims of 1", 0, x.family(1, 4));
+        PlotLeases ends = Due.loaded("let,9,0;bury,0;bury,0;let,9,23;bury,23");
+        due.is("burials of 9, in the first plot and the last", 3, ends.family(9, 1));
         due.is("claims of 7", 1, x.family(7, 4));
         due.is("paid by 4: three leases, four burials, two years more", 3 * 60 + 4 * 10 + 2 * 2, x.family(4, 5));
         due.is("paid by 7", 60, x.family(7, 5));

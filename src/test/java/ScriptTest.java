@@ -7,6 +7,7 @@ final class ScriptTest {
         commands();
         order();
         simulateByHand();
+        simulatedDisputes();
         simulateAgainstCalls();
         due.end();
     }
@@ -135,6 +136,29 @@ final class ScriptTest {
         due.is("clear", 1, x.simulate(156, 1));
         x.clear(1);
         due.is("one in the ossuary", 1, x.simulate(0, 1));
+    }
+
+    /**
+     * By hand, of seed 264694: settle(0, true), claim(0, 3), bury(0); of 349906: settle(12, false), claim(12, 3),
+     * bury(12). Nobody is buried if the claim is not left out.
+     */
+    private static void simulatedDisputes() {
+        PlotLeases x = disputed(0, 1, 3);
+        due.is("the claimant wins, so that its claim is left out", 100, x.simulate(264694, 3));
+        PlotLeases y = disputed(0, 3, 1);
+        due.is("the claimant wins, and the one before claims", 0, y.simulate(264694, 3));
+        PlotLeases z = disputed(12, 3, 1);
+        due.is("the claimant does not win", 100, z.simulate(349906, 3));
+        PlotLeases w = disputed(12, 1, 3);
+        due.is("the claimant does not win, and claims again", 0, w.simulate(349906, 3));
+        due.is("no dispute is settled in the state itself", 1, x.about(4));
+    }
+
+    private static PlotLeases disputed(int p, int holder, int claimant) {
+        PlotLeases x = new PlotLeases();
+        x.let(holder, p);
+        x.claim(p, claimant);
+        return x;
     }
 
     /** The same turns as calls of the methods, on an object that is loaded with the same text. */

@@ -49,7 +49,42 @@ final class SlotTest {
         due.is("save behind load", 0, x.save(0));
         due.is("restore behind it", 0, x.restore(0));
         due.is("its plot", 0, x.plot(0, 0));
+        burialsAndWaiters();
         due.end();
+    }
+
+    private static void burialsAndWaiters() {
+        PlotLeases x = new PlotLeases();
+        for (int p = 0; p < 24; p++) {
+            x.let(0, p);
+            x.bury(p);
+        }
+        for (int i = 0; i < 12; i++) {
+            x.ask(i < 9 ? 9 - i : 5 - i % 3);
+        }
+        x.save(0);
+        x.run(30);
+        for (int p = 0; p < 24; p++) {
+            x.clear(p);
+        }
+        x.run(1);
+        for (int p = 0; p < 24; p++) {
+            if (x.plot(p, 5) == 0) {
+                x.let(9, p);
+            }
+            x.bury(p);
+        }
+        for (int i = 0; i < 12; i++) {
+            x.ask(0);
+        }
+        x.restore(0);
+        for (int p = 0; p < 24; p++) {
+            due.is("burial(" + p + ", 0) is that of the slot", 0, x.burial(p, 0));
+            due.is("burial(" + p + ", 1) is that of the slot", -1, x.burial(p, 1));
+        }
+        for (int i = 0; i < 13; i++) {
+            due.is("waiting(" + i + ") is that of the slot", i < 9 ? 9 - i : i < 12 ? 5 - i % 3 : -1, x.waiting(i));
+        }
     }
 
     private static int undone(PlotLeases x, int times) {

@@ -130,6 +130,12 @@ final class TextTest {
         x.let(0, 5);
         x.bury(5);
         x.claim(5, 3);
+        x.let(1, 6);
+        x.bury(6);
+        x.run(8);
+        x.clear(6);
+        due.is("the ossuary ahead of load", 1, x.about(7));
+        due.is("the town paid ahead of load", 7, x.about(9));
         for (int i = 0; i < 25; i++) {
             x.ask(9);
         }
