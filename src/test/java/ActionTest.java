@@ -20,14 +20,6 @@ final class ActionTest {
         due.end();
     }
 
-    private static PlotLeases full() {
-        PlotLeases x = new PlotLeases();
-        for (int p = 0; p < 24; p++) {
-            x.let(p / 3, p);
-        }
-        return x;
-    }
-
     private static void ask() {
         PlotLeases x = new PlotLeases();
         due.thrown("ask(-1)", Due.INDEX, () -> x.ask(-1));
@@ -35,7 +27,7 @@ final class ActionTest {
         due.is("ask(3)", 0, x.ask(3));
         due.is("its last year", 29, x.plot(0, 1));
         due.is("what it paid", 60, x.family(3, 5));
-        PlotLeases y = full();
+        PlotLeases y = Due.full();
         for (int i = 0; i < 12; i++) {
             due.is("ask of a full ground", -1, y.ask(9 - i % 2));
         }
@@ -171,7 +163,7 @@ final class ActionTest {
     }
 
     private static void clear() {
-        PlotLeases x = full();
+        PlotLeases x = Due.full();
         due.thrown("clear(24)", Due.INDEX, () -> x.clear(24));
         due.thrown("clear(-1)", Due.INDEX, () -> x.clear(-1));
         due.thrown("clear of a plot that is let", Due.STATE, () -> x.clear(0));
@@ -259,7 +251,7 @@ final class ActionTest {
     }
 
     private static void runServesInOrder() {
-        PlotLeases x = full();
+        PlotLeases x = Due.full();
         x.ask(9);
         x.ask(0);
         x.ask(9);
@@ -278,7 +270,7 @@ final class ActionTest {
         due.is("nobody behind it", -1, x.waiting(1));
         due.is("a lease from now on", 59, x.plot(23, 1));
         due.is("9 paid for two", 120, x.family(9, 5));
-        PlotLeases z = full();
+        PlotLeases z = Due.full();
         z.ask(7);
         z.ask(0);
         for (int p = 0; p < 23; p++) {
@@ -289,7 +281,7 @@ final class ActionTest {
         due.is("2 and 23 are free", 2, z.run(30));
         due.is("7, the first one, is near 23", 7, z.plot(23, 0));
         due.is("0 gets the other one", 0, z.plot(2, 0));
-        PlotLeases y = full();
+        PlotLeases y = Due.full();
         y.set(0, 1);
         for (int i = 0; i < 12; i++) {
             y.ask(i % 10);
@@ -342,7 +334,7 @@ final class ActionTest {
     }
 
     private static void undoOfEachAction() {
-        PlotLeases x = full();
+        PlotLeases x = Due.full();
         x.bury(0);
         x.claim(3, 9);
         x.ask(9);

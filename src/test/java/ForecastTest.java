@@ -13,14 +13,6 @@ final class ForecastTest {
         due.end();
     }
 
-    private static PlotLeases full() {
-        PlotLeases x = new PlotLeases();
-        for (int p = 0; p < 24; p++) {
-            x.let(p / 3, p);
-        }
-        return x;
-    }
-
     private static void plotFor() {
         PlotLeases x = new PlotLeases();
         due.thrown("plotFor(10)", Due.INDEX, () -> x.plotFor(10));
@@ -35,7 +27,7 @@ final class ForecastTest {
         x.let(1, 22);
         due.is("at way 2", 9, x.plotFor(0));
         due.is("of other families", 0, x.plotFor(5));
-        due.is("none", -1, full().plotFor(9));
+        due.is("none", -1, Due.full().plotFor(9));
         x.let(0, 0);
         x.claim(0, 5);
         x.run(30);
@@ -80,7 +72,7 @@ final class ForecastTest {
         due.thrown("coming(1, 4)", Due.ARGUMENT, () -> x.coming(1, 4));
         due.is("coming(200, 0)", 24, x.coming(200, 0));
         due.is("coming(1, 0)", 24, x.coming(1, 0));
-        PlotLeases y = full();
+        PlotLeases y = Due.full();
         y.bury(0);
         y.bury(1);
         y.claim(1, 9);
@@ -106,7 +98,7 @@ final class ForecastTest {
         due.thrown("whenFor(-1)", Due.INDEX, () -> x.whenFor(-1));
         x.run(5);
         due.is("a free plot", 5, x.whenFor(0));
-        PlotLeases y = full();
+        PlotLeases y = Due.full();
         y.ask(9);
         for (int p = 0; p < 24; p++) {
             y.bury(p);
@@ -123,7 +115,7 @@ final class ForecastTest {
     }
 
     private static void whenForLater() {
-        PlotLeases x = full();
+        PlotLeases x = Due.full();
         for (int p = 0; p < 23; p++) {
             x.bury(p);
             x.renew(p, 98);
@@ -145,7 +137,7 @@ final class ForecastTest {
     }
 
     private static void whenForNever() {
-        PlotLeases x = full();
+        PlotLeases x = Due.full();
         for (int p = 0; p < 24; p++) {
             x.renew(p, 99);
             x.renew(p, 71);
@@ -157,12 +149,12 @@ final class ForecastTest {
         due.is("the year 201", -1, x.whenFor(0));
         x.run(1);
         due.is("the year 201, a year later", 201, x.whenFor(0));
-        PlotLeases y = full();
+        PlotLeases y = Due.full();
         for (int p = 0; p < 24; p++) {
             y.claim(p, 9);
         }
         due.is("all in dispute", -1, y.whenFor(0));
-        PlotLeases z = full();
+        PlotLeases z = Due.full();
         for (int i = 0; i < 12; i++) {
             z.ask(8);
         }
@@ -171,7 +163,7 @@ final class ForecastTest {
     }
 
     private static void nothingIsChanged() {
-        PlotLeases x = full();
+        PlotLeases x = Due.full();
         x.ask(9);
         x.coming(200, 0);
         x.whenFor(9);
