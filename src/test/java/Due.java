@@ -1,4 +1,9 @@
-/** Compares answers with those that are due, and prints each that differs. */
+import java.io.IOException;
+import java.nio.charset.StandardCharsets;
+import java.nio.file.Files;
+import java.nio.file.Path;
+
+/** Compares answers with those that are due, and prints each that differs, behind the words that ask for it. */
 final class Due {
     interface Call {
         long answer();
@@ -8,14 +13,65 @@ final class Due {
     static final Class<IllegalArgumentException> ARGUMENT = IllegalArgumentException.class;
     static final Class<IllegalStateException> STATE = IllegalStateException.class;
 
+    private static final long MOST_SECONDS = 300;
+
+    private final String document = read(Path.of("..", "shared", "DOC.md"));
+    private volatile String words = "";
     private int asked;
     private int wrong;
+
+    /** A call that does not end would else keep the tests from ever telling so. */
+    Due() {
+        Thread watch = new Thread(this::stopLater);
+        watch.setDaemon(true);
+        watch.start();
+    }
+
+    private void stopLater() {
+        try {
+            Thread.sleep(MOST_SECONDS * 1000);
+        } catch (InterruptedException e) {
+            return;
+        }
+        System.out.println("[" + words + "] no end in " + MOST_SECONDS + " seconds");
+        Runtime.getRuntime().halt(1);
+    }
+
+    /** The words of the document that the next answers test: they must stand there just so. */
+    void says(String... quotes) {
+        words = String.join(" .. ", quotes);
+        for (String quote : quotes) {
+            truth("the document has these words: " + quote, document.isEmpty() || document.contains(quote));
+        }
+    }
+
+    /** Empty if the document is not at hand: the answers can be tested without it. */
+    private static String read(Path path) {
+        try {
+            return Files.readString(path, StandardCharsets.UTF_8).replaceAll("\\s+", " ");
+        } catch (IOException e) {
+            return "";
+        }
+    }
 
     void is(String call, long want, long got) {
         asked++;
         if (got != want) {
-            wrong++;
-            System.out.println(call + " answered " + got + ", due is " + want);
+            complain(call + " answered " + got + ", due is " + want);
+        }
+    }
+
+    void truth(String what, boolean holds) {
+        asked++;
+        if (!holds) {
+            complain(what + ": this does not hold");
+        }
+    }
+
+    void same(String what, String want, String got) {
+        asked++;
+        if (!got.equals(want)) {
+            complain(what + " is \"" + got + "\", due is \"" + want + "\"");
         }
     }
 
@@ -28,54 +84,17 @@ final class Due {
             got = e.getClass();
         }
         if (got != want) {
-            wrong++;
-            System.out.println(call + " gave " + got + ", due is " + want);
+            complain(call + " gave " + got + ", due is " + want);
         }
-    }
-
-    static PlotLeases withText(String commands) {
-        PlotLeases x = new PlotLeases();
-        write(x, commands);
-        return x;
-    }
-
-    static void write(PlotLeases x, String commands) {
-        x.clearText();
-        for (int i = 0; i < commands.length(); i++) {
-            x.append(commands.charAt(i));
-        }
-    }
-
-    static PlotLeases loaded(String commands) {
-        PlotLeases x = withText(commands);
-        x.load();
-        return x;
-    }
-
-    /** All plots are let, three to each of the families 0 to 7. */
-    static PlotLeases full() {
-        PlotLeases x = new PlotLeases();
-        for (int p = 0; p < 24; p++) {
-            x.let(p / 3, p);
-        }
-        return x;
-    }
-
-    static String register(PlotLeases x, int p) {
-        StringBuilder line = new StringBuilder();
-        for (int i = 0; x.line(p, i) != PlotLeases.NONE; i++) {
-            line.append((char) x.line(p, i));
-        }
-        return line.toString();
     }
 
     void registerIs(PlotLeases x, int p, String want) {
-        asked++;
-        String got = register(x, p);
-        if (!got.equals(want)) {
-            wrong++;
-            System.out.println("the line of " + p + " is \"" + got + "\", due is \"" + want + "\"");
-        }
+        same("the line of " + p, want, Grounds.register(x, p));
+    }
+
+    private void complain(String what) {
+        wrong++;
+        System.out.println(words.isEmpty() ? what : "[" + words + "] " + what);
     }
 
     void end() {

@@ -2,19 +2,23 @@ import java.util.Random;
 
 /** Runs of calls that a fixed seed chooses, each answer compared with that of the plain model. */
 final class ModelTest {
+    private static final int MOST_CALLS = 512;
+    private static final int MOST_CALLS_OF_STEPS = 150;
+
     private static final Due due = new Due();
 
     private final Random random;
     private final PlotLeases x = new PlotLeases();
     private final Model model = new Model();
+    private int calls;
 
     private ModelTest(long seed) {
         random = new Random(seed);
     }
 
     public static void main(String[] args) {
-        for (long seed = 0; seed < 400; seed++) {
-            new ModelTest(seed).play(120);
+        for (long seed = 0; seed < 8000; seed++) {
+            new ModelTest(seed).play();
         }
         for (long seed = 0; seed < 4000; seed++) {
             new ModelTest(seed).comparedText();
@@ -27,6 +31,7 @@ final class ModelTest {
     }
 
     private void same(String call, Due.Call ours, Due.Call theirs) {
+        calls++;
         long want;
         try {
             want = theirs.answer();
@@ -45,7 +50,7 @@ final class ModelTest {
         }
     }
 
-    private void play(int calls) {
+    private void play() {
         int style = below(4);
         if (style == 1) {
             shortYears();
@@ -53,13 +58,13 @@ final class ModelTest {
         if (style > 1) {
             crowd();
         }
-        for (int i = 0; i < calls; i++) {
+        int enough = below(MOST_CALLS_OF_STEPS);
+        while (calls < enough) {
             step();
-            if (i % 7 == 0 || i > calls - 15) {
-                compareAll();
-                forecasts();
-            }
         }
+        compare();
+        forecasts();
+        due.truth("no object is asked too often", calls <= MOST_CALLS);
     }
 
     private void set(int what, int v) {
@@ -132,40 +137,55 @@ final class ModelTest {
         }
     }
 
-    private void compareAll() {
+    /** What there is: of plots and families only some, so that the calls are not too many. */
+    private void compare() {
         for (int i = 0; i < 10; i++) {
             int what = i;
             same("about " + i, () -> x.about(what), () -> model.now.about(what));
         }
-        for (int i = 0; i < 24; i++) {
-            comparePlot(i, model.now.graves.get(i));
+        int p = below(24);
+        for (int i = 0; i < 8; i++) {
+            comparePlot((p + 5 * i) % 24);
         }
-        for (int i = 0; i < 60; i++) {
-            int f = i / 6;
+        for (int i = 0; i < 3; i++) {
+            int q = below(24);
+            due.registerIs(x, q, model.now.register(q));
+            calls += 1 + model.now.register(q).length();
+        }
+        int family = below(10);
+        for (int i = 0; i < 24; i++) {
+            int f = (family + i / 6) % 10;
             int what = i % 6;
             same("family " + f + " " + what, () -> x.family(f, what), () -> model.now.family(f, what));
         }
-        for (int k = 0; k < 14; k++) {
-            due.is("waiting " + k, k < model.now.queue.size() ? model.now.queue.get(k) : -1, x.waiting(k));
+        for (int i = 0; i < 14; i++) {
+            int k = i;
+            int want = k < model.now.queue.size() ? model.now.queue.get(k) : -1;
+            same("waiting " + k, () -> x.waiting(k), () -> want);
         }
-        for (int row = 0; row < 4; row++) {
-            due.is("depth", model.now.depths[row], x.depth(row));
+        for (int i = 0; i < 4; i++) {
+            int row = i;
+            same("depth " + row, () -> x.depth(row), () -> model.now.depths[row]);
         }
-        for (int what = 0; what < 5; what++) {
-            due.is("setting", model.now.settings[what], x.setting(what));
+        for (int i = 0; i < 5; i++) {
+            int what = i;
+            same("setting " + what, () -> x.setting(what), () -> model.now.settings[what]);
         }
     }
 
-    private void comparePlot(int p, Model.Grave grave) {
+    private void comparePlot(int p) {
+        Model.Grave grave = model.now.graves.get(p);
         int[] numbers = {grave.family, grave.last, grave.burials.size(), model.now.latest(p), grave.claimant,
             model.now.state(p)};
-        for (int what = 0; what < 6; what++) {
-            due.is("plot " + p + " " + what, numbers[what], x.plot(p, what));
+        for (int i = 0; i < 6; i++) {
+            int what = i;
+            same("plot " + p + " " + what, () -> x.plot(p, what), () -> numbers[what]);
         }
-        for (int k = 0; k < 4; k++) {
-            due.is("burial " + p + " " + k, k < grave.burials.size() ? grave.burials.get(k) : -1, x.burial(p, k));
+        for (int i = 0; i < 4; i++) {
+            int k = i;
+            int want = k < grave.burials.size() ? grave.burials.get(k) : -1;
+            same("burial " + p + " " + k, () -> x.burial(p, k), () -> want);
         }
-        due.registerIs(x, p, model.now.register(p));
     }
 
     private void forecasts() {
@@ -209,7 +229,8 @@ final class ModelTest {
     }
 
     private void write(String text) {
-        Due.write(x, text);
+        Grounds.write(x, text);
+        calls += 1 + text.length();
         model.text = text;
     }
 
