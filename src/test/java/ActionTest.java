@@ -59,17 +59,12 @@ final class ActionTest {
         due.thrown("ask(-1) though 12 wait", Due.INDEX, () -> x.ask(-1));
         due.is("those who wait", 12, x.about(5));
         due.is("the last one", 0, x.waiting(11));
-        x.bury(5);
-        for (int p = 0; p < 24; p++) {
-            if (p != 5) {
-                x.renew(p, 99);
-            }
-        }
-        x.run(30);
-        x.clear(5);
-        due.is("12 wait, but a plot is free", 5, x.ask(0));
-        due.thrown("12 wait, and none is free", Due.STATE, () -> x.ask(0));
-        due.is("12 wait still", 12, x.about(5));
+        PlotLeases y = Grounds.clearable(12, 5);
+        due.thrown("12 wait, and none is free", Due.STATE, () -> y.ask(0));
+        y.clear(5);
+        due.is("12 wait, but a plot is free", 5, y.ask(0));
+        due.thrown("12 wait, and none is free again", Due.STATE, () -> y.ask(0));
+        due.is("12 wait still", 12, y.about(5));
     }
 
     private static void let() {
@@ -110,15 +105,13 @@ final class ActionTest {
 
     private static void letWhoeverWaits() {
         due.says("Lets a plot to a family, as if it got it by asking.");
-        PlotLeases x = Grounds.waited(1);
-        x.bury(0);
-        for (int p = 1; p < 24; p++) {
-            x.renew(p, 99);
-        }
-        x.run(30);
+        PlotLeases x = Grounds.clearable(1, 0);
         x.clear(0);
         due.is("let whoever waits", 59, x.let(7, 0));
         due.is("9 waits still", 9, x.waiting(0));
+        x.undo();
+        due.is("let to the one who waits", 59, x.let(9, 0));
+        due.is("it waits still", 1, x.family(9, 2));
     }
 
     // ---- bury
@@ -345,12 +338,7 @@ final class ActionTest {
 
     private static void clearServesNobody() {
         due.says("Clears a plot (those who wait get plots only as a year goes by).");
-        PlotLeases x = Grounds.waited(2);
-        x.bury(23);
-        for (int p = 0; p < 23; p++) {
-            x.renew(p, 99);
-        }
-        x.run(30);
+        PlotLeases x = Grounds.clearable(2, 23);
         due.is("clear(23)", 1, x.clear(23));
         due.is("the plot is free", 1, x.about(1));
         due.is("two wait", 2, x.about(5));

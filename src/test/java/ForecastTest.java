@@ -55,18 +55,17 @@ final class ForecastTest {
         x.let(1, 22);
         due.is("at way 2", 9, x.plotFor(0));
         due.is("of other families", 0, x.plotFor(5));
-        x.let(0, 0);
-        x.claim(0, 5);
+        x.let(0, 10);
+        x.claim(10, 5);
         x.run(30);
-        due.is("a lapsed plot counts", 1, x.plotFor(0));
-        due.is("a claimed one does not count for the claimant", 1, x.plotFor(5));
-        x.settle(0, true);
-        due.is("it counts when it is settled", 1, x.plotFor(5));
-        due.is("and no longer for the other one", 1, x.plotFor(0));
-        x.let(5, 1);
-        x.let(5, 2);
-        due.is("the ground has changed for 5", 3, x.plotFor(5));
-        due.is("the ask that follows gets it", 3, x.ask(5));
+        due.is("a lapsed plot counts", 4, x.plotFor(0));
+        due.is("a claimed one does not count for the claimant", 0, x.plotFor(5));
+        x.settle(10, true);
+        due.is("it counts when it is settled", 4, x.plotFor(5));
+        due.is("and no longer for the other one", 0, x.plotFor(0));
+        x.let(1, 4);
+        due.is("the next one", 9, x.plotFor(5));
+        due.is("the ask that follows gets it", 9, x.ask(5));
     }
 
     // ---- clearFrom
@@ -222,14 +221,7 @@ final class ForecastTest {
         }
         x.run(5);
         due.is("of a year", 5, x.whenFor(0));
-        PlotLeases y = Grounds.waited(12);
-        y.bury(5);
-        for (int p = 0; p < 24; p++) {
-            if (p != 5) {
-                y.renew(p, 99);
-            }
-        }
-        y.run(30);
+        PlotLeases y = Grounds.clearable(12, 5);
         y.clear(5);
         due.is("who asks gets the free plot, whoever waits", 30, y.whenFor(0));
     }

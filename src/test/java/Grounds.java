@@ -40,6 +40,19 @@ final class Grounds {
         return x;
     }
 
+    /** The year is 30, so many wait, and this plot can be cleared, with one burial; all others are let for long. */
+    static PlotLeases clearable(int times, int one) {
+        PlotLeases x = waited(times);
+        x.bury(one);
+        for (int p = 0; p < 24; p++) {
+            if (p != one) {
+                x.renew(p, 99);
+            }
+        }
+        x.run(30);
+        return x;
+    }
+
     /** All plots are let to family 1 but these two, which are free, and that of family 0. */
     static PlotLeases freeAre(int own, int one, int other) {
         PlotLeases x = new PlotLeases();

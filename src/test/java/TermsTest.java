@@ -348,6 +348,7 @@ final class TermsTest {
 
     private static void whoGetsWhichPlot() {
         leastWay();
+        lapsedPlotsCount();
         withoutPlots();
         whoeverWaits();
         noFreePlot();
@@ -378,6 +379,24 @@ final class TermsTest {
         due.is("the only free one, at way 8", 0, only.plotFor(0));
     }
 
+    private static void lapsedPlotsCount() {
+        due.says("the one with the least way to a plot that is let to this family");
+        PlotLeases x = Grounds.let(1, 60, 21);
+        x.let(2, 9);
+        x.claim(21, 8);
+        x.bury(9);
+        x.run(1);
+        due.is("lapsed, and in dispute", 15, x.plotFor(1));
+        due.is("not for the claimant", 0, x.plotFor(8));
+        x.settle(21, true);
+        due.is("it can be cleared", 15, x.plotFor(8));
+        due.is("not for the one that lost it", 0, x.plotFor(1));
+        x.run(60);
+        due.is("21 is free then", 0, x.plotFor(8));
+        due.is("9 has lapsed", 4, x.plot(9, 5));
+        due.is("it counts", 3, x.plotFor(2));
+    }
+
     private static void withoutPlots() {
         due.says("for a family without plots the lowest free one");
         PlotLeases x = new PlotLeases();
@@ -393,15 +412,7 @@ final class TermsTest {
 
     private static void whoeverWaits() {
         due.says("When a family asks for a plot, it gets this one, whoever waits");
-        PlotLeases x = Grounds.let(1, 1, 0);
-        x.set(0, 30);
-        x.bury(0);
-        for (int p = 1; p < 24; p++) {
-            x.let(2, p);
-        }
-        x.ask(9);
-        x.ask(8);
-        x.run(2);
+        PlotLeases x = Grounds.clearable(2, 0);
         x.clear(0);
         due.is("7 asks, though 9 and 8 wait", 0, x.ask(7));
         due.is("those who wait", 2, x.about(5));
