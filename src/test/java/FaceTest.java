@@ -6,13 +6,18 @@ import java.util.TreeSet;
 
 /** The public face: every constant, constructor and method of the document, and nothing else. */
 final class FaceTest {
+    // with the kinds of exceptions that the face declares, in their order
     private static final String[] FACE = {
-        "append(int)", "clearText()", "errorPosition()", "load()", "about(int)", "plot(int,int)",
-        "burial(int,int)", "family(int,int)", "waiting(int)", "line(int,int)", "depth(int)", "setting(int)",
-        "ask(int)", "let(int,int)", "bury(int)", "renew(int,int)", "claim(int,int)", "settle(int,boolean)",
-        "clear(int)", "dig(int,int)", "run(int)", "set(int,int)", "undo()", "plotFor(int)", "clearFrom(int)",
-        "coming(int,int)", "whenFor(int)", "runScript(int,long)", "simulate(long,int)", "save(int)",
-        "restore(int)"};
+        "append(int) Argument State", "clearText()", "errorPosition()", "load() State", "about(int) Argument",
+        "plot(int,int) Index Argument", "burial(int,int) Index Argument", "family(int,int) Index Argument",
+        "waiting(int) Argument", "line(int,int) Index Argument", "depth(int) Index", "setting(int) Argument",
+        "ask(int) Index State", "let(int,int) Index State", "bury(int) Index State",
+        "renew(int,int) Index Argument State", "claim(int,int) Index State",
+        "settle(int,boolean) Index State", "clear(int) Index State", "dig(int,int) Index Argument",
+        "run(int) Argument", "set(int,int) Argument", "undo() State", "plotFor(int) Index",
+        "clearFrom(int) Index", "coming(int,int) Argument", "whenFor(int) Index",
+        "runScript(int,long) Argument", "simulate(long,int) Argument", "save(int) Index",
+        "restore(int) Index State"};
 
     public static void main(String[] args) throws Exception {
         Due due = new Due();
@@ -28,7 +33,11 @@ final class FaceTest {
             for (Class<?> parameter : method.getParameterTypes()) {
                 name.append(name.charAt(name.length() - 1) == '(' ? "" : ",").append(parameter.getName());
             }
-            String face = name.append(')').toString();
+            name.append(')');
+            for (Class<?> kind : method.getExceptionTypes()) {
+                name.append(' ').append(kind.getSimpleName().replaceAll("Illegal|OutOfBounds|Exception", ""));
+            }
+            String face = name.toString();
             due.is(face + " is of the face", 1, wanted.remove(face) ? 1 : 0);
             due.is(face + " is public, and not static", 1, method.getModifiers());
             due.is(face + " answers an int", 1, method.getReturnType() == int.class ? 1 : 0);
